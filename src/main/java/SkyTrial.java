@@ -21,7 +21,6 @@ public final class SkyTrial {
     private static final int MOST_TRIES = 30;
 
     private static final int MINUTES = 60;
-    private static final int SORTS = 7;
     private static final int LIST_SORTS = 10;
     private static final int MOST_SURE = 5;
     /** YEARS have the most classes. */

@@ -57,6 +57,9 @@ public final class ChanceTest {
         agree(5, 2, 7, 4);
         agree(5, 5, 28, 12);
         agree(20, 2, 23, 12);
+        agree(6, 5, 30, 13);
+        agree(11, 3, 30, 14);
+        agree(12, 3, -2, -2);
         agree(6, 6, -2, -2);
         agree(2, 1000, -2, -2);
         agree(1000, 2, -2, -2);
@@ -144,6 +147,14 @@ public final class ChanceTest {
         within(house, 0, 1, 0, 1, 2);
         within(house, 0, 2, 2, 12, 12);
         within(house, 1, 0, 2, 1, 1);
+        SkyTrial full = new SkyTrial();
+        Due.read(full, "sign a if 0<1; sign b if minute<19; say t all if 0<1;");
+        for (int i = 0; i < 20; i++) {
+            full.person(i, i % 12, 9, 3, 0);
+        }
+        within(full, 0, 0, 0, 1, 1);
+        within(full, 0, 0, 1, 1, 1);
+        within(full, 1, 0, 2, 20, 20);
         within(house, 0, 0, 3, -1, -1);
         within(house, 0, 0, -1, -1, -1);
         within(house, 2, 0, 0, -1, -1);
@@ -172,9 +183,18 @@ public final class ChanceTest {
         DUE.is("striking() without signs", house.striking(), -1);
         Due.read(house, "sign a if 0<1; sign b if 0<1; say t all if 0<1; say u all if 0<1;");
         DUE.is("all alike", house.striking(), 0);
-        // MORE alone would name the first: 1 of 6 against 4 of 20 .. and 5 of 15 against them.
+        // 10 of 20 against 1 of 6; then 1 of 1 against 10 of 20, where the fewest ways are not the least share.
         Due.read(house, "sign a if minute<3; sign b if minute==0; say t all if minute==0;");
+        DUE.is("a share of 1 of 6", house.striking(), 100);
+        Due.read(house, "sign a if 0<1; sign b if minute<3; say t all if minute<2 or minute==3;");
         DUE.is("shares, not ways", house.striking(), 100);
+        house.world(1, 0, 0);
+        for (int i = 0; i < 5; i++) {
+            house.person(i, 0, 0, 0, 0);
+        }
+        // 7 of 10 by a, 2 of 5 by b, 1 of 10 by c, which comes last.
+        Due.read(house, "sign a if minute==0 or minute==4; sign b if minute==0; sign c if minute<2; say t all if minute<2;");
+        DUE.is("7 of 10, 2 of 5, 1 of 10", house.striking(), 200);
     }
 
     private static void bounds() {

@@ -12,6 +12,8 @@ public final class FactTest {
         factsStayInWorlds();
         theRedOne();
         triesAreUnlike();
+        oneTryIsForFree();
+        fewerPeople();
         turnedBack();
         DUE.end();
     }
@@ -124,6 +126,10 @@ public final class FactTest {
         surer(house, 4, 1, 1, 1);
         surer(house, 5, 3, 2, 1);
         surer(house, 6, 1, 2, 1);
+        house.choice(1, false, 5);
+        surer(house, 7, 1, 2, 3);
+        house.choice(1, true, 5);
+        surer(house, 8, 3, 3, 3);
         DUE.is("surer(5, 3)", house.surer(5, 3), -1);
         DUE.is("surer(5, -1)", house.surer(5, -1), -1);
     }
@@ -246,6 +252,41 @@ public final class FactTest {
         DUE.is("red of nineteen, 48 tries", house.red(0, 51, 4), 1);
         DUE.is("red of nineteen, 49 tries", house.red(0, 52, 4), 0);
         DUE.is("turned of nineteen", house.turned(0, 10), 51);
+    }
+
+    /** One of one and listed: 1 of 20 ways, which bears one try or none. */
+    private static void oneTryIsForFree() {
+        SkyTrial house = new SkyTrial();
+        Due.read(house, "sign a if minute==0;");
+        for (int i = 0; i < 20; i++) {
+            house.person(i, 0, 0, 0, 0);
+        }
+        house.tried(0, 0);
+        house.list(0, true);
+        house.annul(0);
+        house.tried(0, 1);
+        house.tried(0, 1);
+        house.tried(0, 2);
+        int[] tries = {0, 1, 1, 0, 1, 1, 2};
+        int[] stands = {0, 0, 1, 1, 1, 1, 0};
+        DUE.is("odds asked first", house.odds(0, 2, true), 1);
+        for (int n = 0; n <= 6; n++) {
+            DUE.is("red(0, " + n + ", 3)", house.red(0, n, 3), tries[n]);
+            DUE.is("red(0, " + n + ", 4)", house.red(0, n, 4), stands[n]);
+        }
+    }
+
+    /** Those who are there no more count in nothing, though FACTS name them. */
+    private static void fewerPeople() {
+        SkyTrial house = house(4);
+        house.list(3, true);
+        house.list(1, true);
+        house.world(7, 0, 0);
+        house.person(0, 0, 0, 0, 9);
+        house.person(1, 0, 0, 0, 0);
+        red(house, 0, 2, 1, 0, 1, 0, 0);
+        DUE.is("odds of two", house.odds(0, 2, false), 2);
+        DUE.is("on(3, 2)", house.on(3, 2), -1);
     }
 
     private static void turnedBack() {

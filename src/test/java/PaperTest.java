@@ -23,6 +23,7 @@ public final class PaperTest {
         trials();
         wholes();
         pleasedOnes();
+        fewerPeople();
         DUE.end();
     }
 
@@ -86,6 +87,10 @@ public final class PaperTest {
         DUE.is("altered(2, 30)", house.altered(2, 30), 2);
         DUE.is("altered(0, 2)", house.altered(0, 2), 1);
         DUE.is("altered(0, 20)", house.altered(0, 20), 0);
+        SkyTrial one = new SkyTrial();
+        Due.read(one, TEXT);
+        one.person(29, 2, 0, 0, 0);
+        DUE.is("altered(0, 30) of one", one.altered(0, 30), 1);
         for (int step : new int[] {-30, 0, 1, 31}) {
             DUE.is("altered(0, " + step + ")", house.altered(0, step), -1);
         }
@@ -235,6 +240,7 @@ public final class PaperTest {
         DUE.is("given(19, 1, 1) of 20", house.given(19, 1, 1), 12);
         house.world(1, 3, 0);
         given(house, 1, 2, 1, 0, 2, 1, 0);
+        DUE.is("trial of three by a flat law", house.trial(1, 0, 1), 6);
         house.world(1, 2, 0);
         DUE.is("given of two", house.given(0, 1, 0), -1);
         DUE.is("trial of two", house.trial(0, 0, 1), -1);
@@ -274,5 +280,19 @@ public final class PaperTest {
         DUE.is("pleased(0, -1)", house.pleased(0, -1, 1, true), -1);
         house.world(1, 0, 0);
         DUE.is("pleased without people", house.pleased(0, 0, 0, false), 0);
+    }
+
+    /** Of four, who have all left a trace, the first alone comes again. */
+    private static void fewerPeople() {
+        SkyTrial house = four();
+        DUE.is("whole of four", house.whole(0, 0), 37);
+        house.world(1, 0, 0);
+        house.person(10, 1, 4, 0, 70);
+        truly(house, 0, 0, 1, 1, 0, 1);
+        DUE.is("altered(0, 30)", house.altered(0, 30), 0);
+        DUE.is("left(0, 0, 1)", house.left(0, 0, 1), 3);
+        DUE.is("pleased(0, 0, 3, true)", house.pleased(0, 0, 3, true), 0);
+        DUE.is("pleased(0, 0, 3, false)", house.pleased(0, 0, 3, false), 1);
+        DUE.is("whole", house.whole(0, 0), 0);
     }
 }

@@ -140,6 +140,11 @@ public final class TextTest {
         DUE.fault("sign", 1, 4);
         DUE.fault("sign  ", 1, 6);
         DUE.fault("sign a 1", 1, 7);
+        DUE.fault("sign if 0<1;", 1, 5);
+        DUE.fault("say all if 0<1;", 1, 4);
+        DUE.fault("book ;", 1, 5);
+        DUE.fault("law =1;", 1, 4);
+        DUE.fault("when say b;", 1, 5);
         DUE.fault("sign a if", 1, 9);
         DUE.fault("sign a if;", 1, 9);
         DUE.fault("sign a if 1;", 1, 11);
@@ -254,6 +259,10 @@ public final class TextTest {
         String told = "sign s if 0<1;sign r if 0<1;say t all if 0<1;say u all if 0<1;book m;";
         DUE.fault(told + "when s say t;when s say u;when r say t;book n;when s say t;", 0, -1);
         DUE.fault(told + "when s say t;when s say u;when s say t;", 3, told.length() + 26 + 11);
+        String full = many(6, "sign s# if 0<1;") + many(16, "say t# all if 0<1;") + many(4, "book b#;");
+        DUE.fault(full + many(4, "law l#=1;"), 0, -1);
+        DUE.fault(full + many(3, "law l#=1;") + "law lc=1;", 3, full.length() + 27 + 4);
+        DUE.fault(full + many(3, "law l#=1;") + "law sa=1;", 3, full.length() + 27 + 4);
         DUE.fault("book a;book a;x", 1, 14);
         DUE.fault("book a;book a;" + many(4, "law l#=1;") + "law x=1;", 2, 14 + 36);
     }
