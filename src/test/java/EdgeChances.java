@@ -338,6 +338,7 @@ final class EdgeChances {
         edge.promise(29, "NONE: there is none.");
         edge.is(new House(), "striking()", -1);
         edge.is(new House().told("sign a if 0<1;").people(2), "striking()", -1);
+        edge.is(new House().told("sign a if 0<1;sign b if 0<1;sign c if 1<0;").people(2), "striking()", -1);
         edge.is(new House().told("say t all if 0<1;").people(2), "striking()", -1);
         edge.is(new House().told("sign a if 0<1;say t all if 0<1;").people(2), "striking()", 0);
     }

@@ -29,6 +29,7 @@ final class EdgePapers {
         wholes();
         pleased();
         pleasedAtTheEnds();
+        fewerPeople();
     }
 
     /** Three PEOPLE; SIGN, SENTENCE, BOOK and LAW are two of each. */
@@ -401,5 +402,35 @@ final class EdgePapers {
         edge.is(house, "pleased(1, 0, -2147483648, true)", 2);
         edge.is(house, "pleased(1, 0, -2147483647, false)", 0);
         edge.is(house, "pleased(1, 0, 2147483647, true)", 0);
+    }
+
+    /** Those whom a WORLD has put out of place count in nothing, though all of them would count in all. */
+    private void fewerPeople() {
+        edge.promise(7, "A WORLD, in place of all PEOPLE: n.");
+        House house = new House().told("sign a if way 0==1;sign b if minute==1;say t all if way 0==1;book m;when a say t;"
+                + "book n;when b say t;law f=true;");
+        for (int i = 0; i < 20; i++) {
+            house.call("person(1, 0, 0, 0, 1)");
+        }
+        edge.is(house, "altered(1, 2)", 20);
+        edge.is(house, "pleased(0, 0, 1, true)", 380);
+        edge.is(house, "list(19, true)", 0);
+        house.did("world(1, 0, 0)", "person(1, 0, 0, 0, 1)");
+        edge.is(house, "altered(1, 2)", 1);
+        long[] truly = {1, 1, 0, 1};
+        for (int what = 0; what < 4; what++) {
+            edge.is(house, "truly(0, 0, " + what + ")", truly[what]);
+            edge.is(house, "table(0, 0, " + what + ")", 1);
+        }
+        edge.is(house, "left(0, 0, 1)", 1);
+        edge.is(house, "left(0, 0, 0)", 0);
+        edge.is(house, "pleased(0, 0, 1, false)", 1);
+        edge.is(house, "pleased(0, 0, 1, true)", 0);
+        edge.is(house, "whole(0, 0)", 0);
+        edge.is(house, "chances(0, 0, false)", 1);
+        edge.is(house, "within(0, 0, 1, false)", 1);
+        edge.is(house, "red(0, 1, 0)", 0);
+        edge.is(house, "red(0, 1, 2)", 1);
+        edge.is(house, "paper(0, 1)", -1);
     }
 }

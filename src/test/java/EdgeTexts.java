@@ -32,6 +32,7 @@ final class EdgeTexts {
         booksAhead();
         waysAboveSeven();
         faultsChangeNothing();
+        shorterTexts();
         vars();
         papersInLaws();
         wraps();
@@ -128,6 +129,17 @@ final class EdgeTexts {
         edge.holds("2<=2", true);
         edge.holds("2<=3", true);
         edge.holds("3<=2", false);
+        for (String so : new String[] {"2==2", "2!=3", "2<3", "2<=2"}) {
+            for (String not : new String[] {"2==3", "2!=2", "2<2", "3<=2"}) {
+                edge.holds("not " + not, true);
+                edge.holds("not " + so, false);
+                edge.holds(so + " and " + not, false);
+                edge.holds(not + " and " + so, false);
+                edge.holds(not + " or " + not, false);
+                edge.holds(not + " or " + so, true);
+                edge.holds(so + " and not " + not, true);
+            }
+        }
         edge.fault("sign a if 1;", 1, 11);
         edge.fault("sign a if 1<2<3;", 1, 13);
         edge.fault("sign a if not;", 1, 13);
@@ -357,6 +369,14 @@ final class EdgeTexts {
         edge.value(deep, 255);
         edge.holds("1<0 or 0<1 and 255==" + deep, true);
         edge.holds("1<0 or 0<1 and 254==" + deep, false);
+        // As many formulas ahead of it as there may be take none of its room.
+        String ahead = many(5, "sign s# if 0<1;") + many(15, "say t# all if 0<1;") + many(4, "law l#=1;");
+        String last = "sign y if 0<1;say z all if 1<0 or 0<1 and 255==" + deep + ";";
+        edge.is(new House().told(ahead + last).people(1), "holds(15, 0)", 1);
+        edge.is(new House().told(ahead + last.replace("255", "254")).people(1), "holds(15, 0)", 0);
+        last = "say y all if 0<1;sign z if 1<0 or 0<1 and 255==" + deep + ";";
+        edge.is(new House().told(ahead + last).people(1), "signs(0, -1)", 63);
+        edge.is(new House().told(ahead + last.replace("255", "254")).people(1), "signs(0, -1)", 31);
     }
 
     private void laterFaults() {
@@ -391,6 +411,13 @@ final class EdgeTexts {
         edge.fault(all + "law sa=1;", 3, all.length() + 4);
         edge.fault(all + "law lc=1;", 3, all.length() + 4);
         edge.good(all + "law z=1;");
+        // A WHEN knows the last NAME there is room for, be it a SIGN's or a SENTENCE's.
+        String five = many(5, "sign s# if 0<1;") + many(16, "say t# all if 0<1;") + many(4, "book b#;") + many(4, "law l#=1;");
+        edge.good(five + "sign z if 0<1;when z say tp;");
+        edge.fault(five + "sign z if 0<1;when y say tp;", 4, five.length() + 14 + 5);
+        String fifteen = many(6, "sign s# if 0<1;") + many(15, "say t# all if 0<1;") + many(4, "book b#;") + many(4, "law l#=1;");
+        edge.good(fifteen + "say z all if 0<1;when sf say z;");
+        edge.fault(fifteen + "say z all if 0<1;when sf say z;when sf say z;", 3, fifteen.length() + 17 + 14 + 12);
         // What an earlier text told is told no more.
         House house = new House().told("book a;");
         edge.is(house.put("law a=1;"), "read()", 0);
@@ -487,12 +514,30 @@ final class EdgeTexts {
         edge.is(house.put("sign d if 0<1;sign d if 0<1;"), "read()", 3);
         edge.is(house, "signs(0, -1)", 2);
         edge.is(house, "count(1)", 2);
-        // Many texts, one after the other, good and not.
+        // Many texts, one after the other, good and not: none takes of the next one's room.
+        House many = new House().people(1);
         for (int i = 0; i < 20; i++) {
-            edge.is(house.put("law a=" + i + ";book b;"), "read()", 0);
-            edge.is(house.put("law a=99;book b;("), "read()", 1);
-            edge.is(house, "fit(0, 0, 0, 0, 0)", i);
+            edge.is(many.put("book b;law a=" + i + "+1".repeat(70) + ";"), "read()", 0);
+            edge.is(many.put("book b;law a=99" + "+1".repeat(70) + ";("), "read()", 1);
+            edge.is(many, "fit(0, 0, 0, 0, 0)", i + 70);
         }
+    }
+
+    /** What a longer text has left behind is no part of a shorter one, though it may stand where that one ends. */
+    private void shorterTexts() {
+        String longer = many(6, "sign s# if 0<1;") + many(16, "say t# all if 0<1;");
+        String shorter = "sign a if 1<0;law f=0" + "+1".repeat(150) + ";";
+        House after = new House().told(longer).told(longer).told(shorter).did("world(1, 3, 10)");
+        House never = new House().told(shorter).did("world(1, 3, 10)");
+        edge.is(after, "signs(0, -1)", 0);
+        edge.is(never, "signs(0, -1)", 0);
+        edge.same("longer texts", after.state(), never.state());
+        // Where the SIGNS end the SENTENCES don't begin, nor the LAWS where these do.
+        House full = new House().told(longer + "book m;when sf say tp;law f=1;").people(1);
+        edge.is(full, "signs(0, -1)", 63);
+        edge.is(full, "signs(0, 59)", 63);
+        edge.is(full, "paper(0, 0)", 32768);
+        edge.is(full, "striking()", 0);
     }
 
     private static List<String> withoutPlace(House house) {
