@@ -48,7 +48,12 @@ public final class FaceTest {
                 DUE.holds(method + " is no static one", !Modifier.isStatic(method.getModifiers()));
             }
         }
-        DUE.holds("the face is " + found, found.equals(new TreeSet<>(Arrays.asList(FACE.split("\\|")))));
+        Set<String> told = new TreeSet<>(Arrays.asList(FACE.split("\\|")));
+        DUE.holds("the face is " + found, found.equals(told));
+        Path doc = Path.of("../shared/DOC.md");
+        if (Files.exists(doc)) {
+            DUE.holds("the document's face is " + told, faceOf(Files.readString(doc)).equals(told));
+        }
         int modifiers = SkyTrial.class.getModifiers();
         DUE.holds("the class is public and final", Modifier.isPublic(modifiers) && Modifier.isFinal(modifiers));
         Field none = SkyTrial.class.getField("NONE");
@@ -57,6 +62,18 @@ public final class FaceTest {
         Constructor<?>[] all = SkyTrial.class.getDeclaredConstructors();
         DUE.holds("one public constructor", all.length == 1 && Modifier.isPublic(all[0].getModifiers())
                 && all[0].getParameterCount() == 0);
+    }
+
+    /** The methods of the document's first program, their parameters without names. */
+    private static Set<String> faceOf(String doc) {
+        Set<String> face = new TreeSet<>();
+        int from = doc.indexOf("public final class SkyTrial {");
+        Matcher line = Pattern.compile("(?m)^ *public (\\w+ \\w+\\(.*\\));$")
+                .matcher(doc.substring(from, doc.indexOf("\n}", from)));
+        while (line.find()) {
+            face.add(line.group(1).replaceAll("(int|boolean) \\w+(, |\\))", "$1$2").replace(", ", ","));
+        }
+        return face;
     }
 
     private static void nothingElseShows() {
